@@ -36,9 +36,25 @@ final class ModelTest {
         }
 
         void go() {
+            if (number % 8 != 0) {
+                begin();
+            }
             for (int call = 0; call < CALLS; call++) {
                 step(random.nextInt(100));
             }
+        }
+
+        /** A holt in which most calls have something to answer; kept as the image, so that going back keeps it, too. */
+        private void begin() {
+            Texts texts = new Texts(random);
+            for (int text = 0; text < 3; text++) {
+                String right = texts.right(text);
+                tell(right);
+                both("holt " + right, real::holt, model::holt);
+            }
+            real.image();
+            model.image();
+            calls.append("image\n");
         }
 
         private void both(String name, Supplier<Object> ofReal, Supplier<Object> ofModel) {
@@ -158,6 +174,9 @@ final class ModelTest {
             switch (kind) {
                 case 0, 1, 2 -> both("undo", real::undo, model::undo);
                 case 3 -> {
+                    if (random.nextBoolean()) {
+                        return;
+                    }
                     real.image();
                     model.image();
                     calls.append("image\n");
@@ -191,8 +210,8 @@ final class ModelTest {
                 case 4, 5, 6, 7 -> both("basket " + basket + " " + what, () -> real.basket(basket, what), () -> model.basket(basket, what));
                 case 8 -> both("run " + basket + " " + less, () -> real.run(basket, less), () -> model.run(basket, less));
                 case 9 -> {
-                    int round = pick(0, 19);
-                    int stake = pick(0, 23);
+                    int round = pick(0, 5);
+                    int stake = pick(0, 9);
                     both("over " + basket + " " + round + " " + stake, () -> real.over(basket, round, stake), () -> model.over(basket, round, stake));
                 }
                 case 10 -> both("sound " + basket, () -> real.sound(basket), () -> model.sound(basket));
@@ -311,6 +330,27 @@ final class ModelTest {
 
         private String one(String... words) {
             return words[random.nextInt(words.length)];
+        }
+
+        /** A right text: beds and rods, then baskets, then hands and orders. */
+        String right(int kind) {
+            List<String> lines = new ArrayList<>();
+            for (int i = 2 + random.nextInt(3); i > 0; i--) {
+                if (kind == 0) {
+                    lines.add("bed " + one("osier", "purple", "almond") + " age " + random.nextInt(10) + " stools "
+                        + (1 + random.nextInt(99)) + " damp " + random.nextInt(10));
+                    lines.add("rods " + (1 + random.nextInt(6)) + " " + random.nextInt(1000));
+                } else if (kind == 1) {
+                    lines.add("basket stakes " + (3 + random.nextInt(8)) + " rounds " + (1 + random.nextInt(5)) + " weave"
+                        + (" " + (1 + random.nextInt(4)) + " " + (1 + random.nextInt(4))).repeat(1 + random.nextInt(3))
+                        + " feet " + (1 + random.nextInt(random.nextInt(2) == 0 ? 2 : 6)) + " pays " + random.nextInt(30));
+                } else {
+                    lines.add("hand skill " + (1 + random.nextInt(9)) + " wage " + random.nextInt(7));
+                    lines.add("order " + random.nextInt(2) + " " + (1 + random.nextInt(5)));
+                }
+            }
+            lines.add(kind == 0 ? "till " + random.nextInt(1000) : "flood " + random.nextInt(101));
+            return String.join(";", lines);
         }
 
         String holt(boolean full) {
