@@ -1721,10 +1721,11 @@ public final class OsierHolt {
 
         // Ways are tried from the first one on: so of several alike the first one stays.
         private static void tryRods(Ways ways, int piece, int rods, int inches) {
+            if (ways.bestValue != NONE && rods >= ways.bestValue) {
+                return;
+            }
             if (piece >= ways.told || piece >= MOST_TRIED) {
-                if (ways.bestValue == NONE || rods < ways.bestValue) {
-                    ways.keepTried(rods);
-                }
+                ways.keepTried(rods);
                 return;
             }
             int length = ways.tellings[piece];

@@ -19,6 +19,7 @@ final class ActTest {
         make();
         led();
         log();
+        longLog();
         seed();
         undo();
         undoAll();
@@ -341,6 +342,40 @@ final class ActTest {
         Kit.is("led", x.led(0, false), 60);
         Kit.noSuch("what 4", () -> x.log(0, 4));
         Kit.noSuch("what -1", () -> x.log(99, -1));
+    }
+
+    private static void longLog() {
+        Kit.part("promises 49, 51");
+        OsierHolt x = Kit.of("bed osier age 1 stools 7;bed purple age 1 stools 5;till 999");
+        Kit.law(x, "grow 1;dear 1 if sort > 0");
+        for (int k = 0; k < 70; k++) {
+            if (k % 3 == 0) {
+                x.years(1);
+            }
+            x.cut(k % 2);
+        }
+        isLog(x, 70);
+        x.cut(0);
+        isLog(x, 71);
+        x.undo();
+        isLog(x, 70);
+        x.image();
+        x.cut(0);
+        x.cut(1);
+        x.back();
+        isLog(x, 70);
+    }
+
+    /** After so many cuts, a year more ahead of each third one, of the beds by turns. */
+    private static void isLog(OsierHolt x, int cuts) {
+        Kit.is("rows", x.count(10), 60);
+        for (int ago = 0; ago < 60; ago++) {
+            int k = cuts - 1 - ago;
+            int year = k / 3 + 1;
+            String due = year + " " + k % 2 + " 0 " + (k % 2 == 0 ? 14 : 10);
+            String got = x.log(ago, 0) + " " + x.log(ago, 1) + " " + x.log(ago, 2) + " " + x.log(ago, 3);
+            Kit.is("log " + ago + " ago", got, due);
+        }
     }
 
     private static void seed() {

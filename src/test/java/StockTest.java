@@ -8,6 +8,7 @@ final class StockTest {
         again();
         floatsAndDrops();
         fits();
+        farFits();
         nearest();
         runs();
         overs();
@@ -129,6 +130,16 @@ final class StockTest {
         // a stake of two rounds would have to change everywhere, which 1 over and 2 under cannot do
         // among three or more stakes: O-- O-- against itself put off always has two unders together
         Kit.is("fit of 1 2 in 2 rounds", x.basket(1, 11), OsierHolt.NONE);
+    }
+
+    private static void farFits() {
+        Kit.part("promise 8");
+        OsierHolt x = Kit.of(basket(3, 2, "4 3 4 4 3 4", 1, 0) + ";" + basket(3, 3, "4 2 2 3 4 4", 1, 0)
+            + ";" + basket(3, 5, "1 1 2 1", 1, 0));
+        Kit.is("fit", x.basket(0, 11), 11);
+        Kit.is("fit", x.basket(1, 11), 17);
+        // O-O / O-O / -OO / -O- / OO-
+        Kit.is("a blind round", x.basket(2, 10), 1);
     }
 
     private static void nearest() {

@@ -81,12 +81,15 @@ final class TextTest {
         Kit.is("till", x.count(7), 999);
         Kit.is("year", x.count(8), 7);
         Kit.is("wet", x.count(9), 1);
-        Kit.is("rods are told, not added", Kit.holt(x, "rods 6 3;bed osier age 0 stools 1"), 2);
+        Kit.holt(x, "year 0;till 0;flood 0;rods 5 0");
+        Kit.is("0 of each", x.count(6) + x.count(7) + x.count(8), 0);
+        x.end(0);
+        Kit.is("rods are told, not added", Kit.holt(x, "rods 6 3;bed osier age 0 stools 1;till 999"), 3);
         Kit.is("rods", x.store(6), 3);
         Kit.is("beds go on", x.count(0), 3);
-        Kit.is("an empty text", Kit.holt(x, ""), 3);
-        Kit.is("blanks", Kit.holt(x, "   "), 4);
-        Kit.is("texts", x.count(4), 4);
+        Kit.is("an empty text", Kit.holt(x, ""), 4);
+        Kit.is("blanks", Kit.holt(x, "   "), 5);
+        Kit.is("texts", x.count(4), 5);
 
         x.hire(1, 1);
         Kit.illegal("a wrong text", () -> Kit.holt(x, "till 3;wet;bed osier age 1 stools 1;rods 6 9;oops"));
@@ -95,7 +98,7 @@ final class TextTest {
         Kit.is("the tape is used up", x.end(1), false);
         Kit.holt(x, "till 3");
         Kit.is("none remembered", x.count(11), 0);
-        for (int k = 6; k <= 12; k++) {
+        for (int k = 7; k <= 12; k++) {
             Kit.is("texts", Kit.holt(x, ""), k);
         }
         x.hire(1, 1);
@@ -136,7 +139,7 @@ final class TextTest {
             {"rods 0 1", 5}, {"rods 7 1", 5}, {"rods 6 1000", 7}, {"rods 6 0999", 7}, {"rods 6", 6},
             {"hand skill 0 wage 1", 11}, {"hand skill 10", 11}, {"hand skill 9 wage 100", 18}, {"hand wage 1", 5},
             {"order 0 1", 6}, {BASKET + ";order 1 1", 55}, {BASKET + ";order 0 0", 57}, {BASKET + ";order 0 10", 57},
-            {"flood 101", 6}, {"till 1000", 5}, {"year 1000", 5}, {"till -1", 5}, {"wet 1", 4}, {"wets", 0},
+            {"flood 101", 6}, {"till 1000", 5}, {"year 1000", 5}, {"till -1", 5}, {"wet 1", 4}, {"wets", 0}, {"weta", 0}, {"wetz", 0}, {"wet`", 3}, {"wet{", 3},
             {"wet;", 4}, {"wet; ", 5}, {";wet", 0}, {"wet;;wet", 4}, {"Wet", 0}, {"wet\t", 3}, {"wet wet", 4},
             {"dry", 0}, {"7", 0}, {"rain;wet", 0}, {"till 5 5", 7}, {"till 5,", 6}, {"grow 1", 0},
         };
