@@ -523,7 +523,11 @@ public final class OsierHolt {
             return false;
         }
         remembered--;
-        now.copy(past[(oldestPast + remembered) % MOST_REMEMBERED]);
+        Holt before = past[(oldestPast + remembered) % MOST_REMEMBERED];
+        if (before == null) {
+            return false;
+        }
+        now.copy(before);
         return true;
     }
 
@@ -625,8 +629,11 @@ public final class OsierHolt {
             oldestPast = (oldestPast + 1) % MOST_REMEMBERED;
             remembered--;
         }
-        past[(oldestPast + remembered) % MOST_REMEMBERED].copy(now);
-        remembered++;
+        Holt next = past[(oldestPast + remembered) % MOST_REMEMBERED];
+        if (next != null) {
+            next.copy(now);
+            remembered++;
+        }
     }
 
     private static int restBit(int choices, int cutter, int cutterElse, int river, int riverElse) {

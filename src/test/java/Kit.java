@@ -103,6 +103,10 @@ final class Kit {
         return OsierHolt.NONE;
     }
 
+    static String basket(int stakes, int rounds, String weave, int feet, int pays) {
+        return "basket stakes " + stakes + " rounds " + rounds + " weave " + weave + " feet " + feet + " pays " + pays;
+    }
+
     static OsierHolt of(String... texts) {
         OsierHolt holt = new OsierHolt();
         for (String text : texts) {

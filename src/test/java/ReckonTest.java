@@ -29,10 +29,6 @@ final class ReckonTest {
         Kit.close();
     }
 
-    private static String basket(int stakes, int rounds, String weave, int feet, int pays) {
-        return "basket stakes " + stakes + " rounds " + rounds + " weave " + weave + " feet " + feet + " pays " + pays;
-    }
-
     private static void gain() {
         Kit.part("promises 25, 26");
         OsierHolt x = Kit.of(THREE_BEDS + ";bed osier age 6 stools 7 damp 9;wet;flood 100;till 0");
@@ -67,8 +63,8 @@ final class ReckonTest {
         Kit.is("worth of none", none.worth(), 0);
         Kit.is("fills of none", none.fills(), 0);
         // needs: 4 rods of 1 foot each, paid 5, 9 and 0
-        OsierHolt x = Kit.of(basket(3, 1, "1 1", 1, 5) + ";" + basket(3, 1, "1 1", 1, 9) + ";"
-            + basket(3, 1, "1 1", 2, 0) + ";rods 1 16;rods 2 50;order 0 2;order 1 1;order 0 3;order 2 1;order 1 1");
+        OsierHolt x = Kit.of(Kit.basket(3, 1, "1 1", 1, 5) + ";" + Kit.basket(3, 1, "1 1", 1, 9) + ";"
+            + Kit.basket(3, 1, "1 1", 2, 0) + ";rods 1 16;rods 2 50;order 0 2;order 1 1;order 0 3;order 2 1;order 1 1");
         // 16 rods: orders 0 (8 rods, 10), 1 (4, 9), 2 (12, 15), 3 (pays 0), 4 (4, 9)
         Kit.is("worth", x.worth(), 28);
         Kit.is("fills", x.fills(), 1 + 2 + 16);
@@ -83,13 +79,13 @@ final class ReckonTest {
     private static void worthOfSeveral() {
         Kit.part("promises 27, 28");
         // 8 rods: one order of 2 and two of 1 pay alike: the fewest
-        OsierHolt x = Kit.of(basket(3, 1, "1 1", 1, 5) + ";rods 1 8;order 0 1;order 0 1;order 0 2;order 0 2");
+        OsierHolt x = Kit.of(Kit.basket(3, 1, "1 1", 1, 5) + ";rods 1 8;order 0 1;order 0 1;order 0 2;order 0 2");
         Kit.is("worth", x.worth(), 10);
         Kit.is("fills: the fewest, then the least", x.fills(), 4);
-        OsierHolt y = Kit.of(basket(3, 1, "1 1", 1, 0) + ";rods 1 8;order 0 1");
+        OsierHolt y = Kit.of(Kit.basket(3, 1, "1 1", 1, 0) + ";rods 1 8;order 0 1");
         Kit.is("an order that pays nothing", y.worth() * 100 + y.fills(), 0);
         // feet are stored apart
-        OsierHolt z = Kit.of(basket(3, 1, "1 1", 1, 5) + ";" + basket(3, 1, "1 1", 2, 6)
+        OsierHolt z = Kit.of(Kit.basket(3, 1, "1 1", 1, 5) + ";" + Kit.basket(3, 1, "1 1", 2, 6)
             + ";rods 1 4;rods 2 4;order 0 1;order 0 1;order 1 1");
         Kit.is("worth", z.worth(), 11);
         Kit.is("fills", z.fills(), 1 + 4);
@@ -223,8 +219,8 @@ final class ReckonTest {
         OsierHolt none = new OsierHolt();
         Kit.is("none", none.team(OsierHolt.NONE), 0);
         Kit.outOfBounds("hand 0 of none", () -> none.team(0));
-        OsierHolt x = Kit.of(basket(3, 1, "1 1", 1, 7) + ";" + basket(3, 1, "1 1", 1, 20) + ";"
-            + basket(3, 1, "1 1", 1, 0) + ";hand skill 2 wage 1;hand skill 9 wage 1;hand skill 5 wage 1;"
+        OsierHolt x = Kit.of(Kit.basket(3, 1, "1 1", 1, 7) + ";" + Kit.basket(3, 1, "1 1", 1, 20) + ";"
+            + Kit.basket(3, 1, "1 1", 1, 0) + ";hand skill 2 wage 1;hand skill 9 wage 1;hand skill 5 wage 1;"
             + "order 0 9;order 1 1;order 2 9;order 0 1");
         Kit.is("the most", x.team(-1), 9 * 20 + 5 * 7 + 2 * 7);
         Kit.is("hand 0", x.team(0), 0);
@@ -237,7 +233,7 @@ final class ReckonTest {
         Kit.is("hand 1", x.team(1), 1);
         Kit.outOfBounds("hand 3", () -> x.team(3));
         Kit.outOfBounds("hand -2", () -> x.team(-2));
-        OsierHolt y = Kit.of(basket(3, 1, "1 1", 1, 3) + ";hand skill 4 wage 1;hand skill 4 wage 1;order 0 1");
+        OsierHolt y = Kit.of(Kit.basket(3, 1, "1 1", 1, 3) + ";hand skill 4 wage 1;hand skill 4 wage 1;order 0 1");
         Kit.is("none is the least", y.team(0), OsierHolt.NONE);
         Kit.is("so the other one", y.team(1), 0);
     }
@@ -273,7 +269,7 @@ final class ReckonTest {
         int[][] due = {{0, 1, 4, 2, 4}, {1, 0, 4, 2, 4}, {4, 4, 0, 2, 6}, {2, 2, 2, 0, 4}, {4, 4, 6, 4, 0}};
         OsierHolt x = new OsierHolt();
         for (String weave : weaves) {
-            Kit.holt(x, basket(3, 1, weave, 1, 1));
+            Kit.holt(x, Kit.basket(3, 1, weave, 1, 1));
         }
         for (int one = 0; one < 5; one++) {
             for (int other = 0; other < 5; other++) {
@@ -304,8 +300,8 @@ final class ReckonTest {
 
     private static void price() {
         Kit.part("promise 37");
-        OsierHolt x = Kit.of(basket(3, 1, "1 1", 2, 10) + ";" + basket(3, 1, "1 1", 2, 20) + ";"
-            + basket(3, 1, "1 1", 2, 6) + ";" + basket(3, 1, "1 1", 3, 99) + ";" + basket(3, 1, "1 1", 4, 0));
+        OsierHolt x = Kit.of(Kit.basket(3, 1, "1 1", 2, 10) + ";" + Kit.basket(3, 1, "1 1", 2, 20) + ";"
+            + Kit.basket(3, 1, "1 1", 2, 6) + ";" + Kit.basket(3, 1, "1 1", 3, 99) + ";" + Kit.basket(3, 1, "1 1", 4, 0));
         Kit.is("20 by one and 10 by two are alike", x.price(2), 10);
         Kit.is("99", x.price(3), 99);
         Kit.is("0", x.price(4), 0);
@@ -355,7 +351,7 @@ final class ReckonTest {
             Kit.is("most of none", x.most(what), OsierHolt.NONE);
         }
         Kit.holt(x, "bed osier age 0 stools 9;bed osier age 4 stools 1;bed osier age 4 stools 2;"
-            + basket(3, 1, "1 1", 6, 0) + ";" + basket(4, 1, "1 1", 1, 2) + ";" + basket(4, 1, "1 1", 1, 2)
+            + Kit.basket(3, 1, "1 1", 6, 0) + ";" + Kit.basket(4, 1, "1 1", 1, 2) + ";" + Kit.basket(4, 1, "1 1", 1, 2)
             + ";hand skill 3 wage 1;hand skill 2 wage 9;hand skill 3 wage 3");
         Kit.is("oldest", x.most(0), 1);
         Kit.is("richest", x.most(1), 1);
@@ -366,7 +362,7 @@ final class ReckonTest {
 
     private static void open() {
         Kit.part("promise 41");
-        OsierHolt x = Kit.of(basket(3, 1, "1 1", 1, 5) + ";rods 1 8;order 0 1;order 0 2;order 0 3;order 0 2");
+        OsierHolt x = Kit.of(Kit.basket(3, 1, "1 1", 1, 5) + ";rods 1 8;order 0 1;order 0 2;order 0 3;order 0 2");
         x.drop(1);
         Kit.is("open", x.open(false), 1 + 4 + 8);
         Kit.is("can", x.open(true), 1 + 8);
@@ -407,7 +403,7 @@ final class ReckonTest {
 
     private static void trial() {
         Kit.part("promise 46");
-        OsierHolt x = Kit.of(basket(3, 1, "1 1", 1, 5) + ";rods 1 8;order 0 1;order 0 2;order 0 1;hand skill 1 wage 2;"
+        OsierHolt x = Kit.of(Kit.basket(3, 1, "1 1", 1, 5) + ";rods 1 8;order 0 1;order 0 2;order 0 1;hand skill 1 wage 2;"
             + "bed osier age 9 stools 9;flood 50");
         Kit.is("0 years", x.trial(0, false), 50);
         Kit.is("0 years", x.trial(0, true), 7);
@@ -424,7 +420,7 @@ final class ReckonTest {
 
     private static void span() {
         Kit.part("promise 47");
-        OsierHolt x = Kit.of(basket(3, 1, "1 1", 1, 5) + ";rods 1 8;order 0 1;hand skill 1 wage 2");
+        OsierHolt x = Kit.of(Kit.basket(3, 1, "1 1", 1, 5) + ";rods 1 8;order 0 1;hand skill 1 wage 2");
         x.seed(77);
         Kit.is("the least", x.span(2, false), 51);
         Kit.is("the greatest", x.span(2, true), 51);

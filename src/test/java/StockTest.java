@@ -18,10 +18,6 @@ final class StockTest {
         Kit.close();
     }
 
-    private static String basket(int stakes, int rounds, String weave, int feet, int pays) {
-        return "basket stakes " + stakes + " rounds " + rounds + " weave " + weave + " feet " + feet + " pays " + pays;
-    }
-
     private static void isBasket(OsierHolt x, int basket, int... due) {
         for (int what = 0; what < due.length; what++) {
             Kit.is("basket(" + basket + ", " + what + ")", x.basket(basket, what), due[what]);
@@ -62,8 +58,8 @@ final class StockTest {
 
     private static void basketNumbers() {
         Kit.part("promise 8");
-        OsierHolt x = Kit.of(basket(24, 20, "4 4 4 4 4 4", 6, 99) + ";" + basket(3, 1, "1 1", 1, 0)
-            + ";" + basket(5, 1, "1 2", 1, 0) + ";" + basket(6, 1, "1 2", 1, 0));
+        OsierHolt x = Kit.of(Kit.basket(24, 20, "4 4 4 4 4 4", 6, 99) + ";" + Kit.basket(3, 1, "1 1", 1, 0)
+            + ";" + Kit.basket(5, 1, "1 2", 1, 0) + ";" + Kit.basket(6, 1, "1 2", 1, 0));
         isBasket(x, 0, 24, 20, 6, 99, 24 + 14, 24);
         isBasket(x, 1, 3, 1, 1, 0, 3 + 1, 2);
         Kit.is("need, 10 by 10", x.basket(2, 4), 6);
@@ -77,8 +73,8 @@ final class StockTest {
     private static void basketWeaves() {
         Kit.part("promises 8, 11");
         // O-- O-- over 4 stakes in 3 rounds: O--O / --O- / -O--
-        OsierHolt x = Kit.of(basket(4, 3, "1 2", 2, 5) + ";" + basket(3, 2, "1 2", 2, 5)
-            + ";" + basket(4, 1, "2 2", 2, 5));
+        OsierHolt x = Kit.of(Kit.basket(4, 3, "1 2", 2, 5) + ";" + Kit.basket(3, 2, "1 2", 2, 5)
+            + ";" + Kit.basket(4, 1, "2 2", 2, 5));
         isBasket(x, 0, 4, 3, 2, 5, 4 + 2, 3, 3, 0, 2, 2, 0, 4);
         Kit.is("sound", x.sound(0), true);
         // O-- / O--
@@ -93,9 +89,9 @@ final class StockTest {
 
     private static void again() {
         Kit.part("promise 8");
-        OsierHolt x = Kit.of(basket(3, 4, "1 1 1 1", 1, 0) + ";" + basket(3, 4, "1 2 1 2", 1, 0)
-            + ";" + basket(5, 1, "4 4 4 4 4 3", 1, 0) + ";" + basket(12, 1, "4 4 4 4 4 4", 1, 0)
-            + ";" + basket(12, 1, "4 4 4 4 4 3", 1, 0));
+        OsierHolt x = Kit.of(Kit.basket(3, 4, "1 1 1 1", 1, 0) + ";" + Kit.basket(3, 4, "1 2 1 2", 1, 0)
+            + ";" + Kit.basket(5, 1, "4 4 4 4 4 3", 1, 0) + ";" + Kit.basket(12, 1, "4 4 4 4 4 4", 1, 0)
+            + ";" + Kit.basket(12, 1, "4 4 4 4 4 3", 1, 0));
         Kit.is("runs that repeat themselves", x.basket(0, 6), 2);
         Kit.is("runs that repeat themselves", x.basket(1, 6), 1);
         Kit.is("23 places by 5 stakes", x.basket(2, 6), 23);
@@ -107,9 +103,9 @@ final class StockTest {
     private static void floatsAndDrops() {
         Kit.part("promise 8");
         // 2 2 over 3 stakes in 4 rounds: OO- / -OO / --O / O--
-        OsierHolt x = Kit.of(basket(3, 4, "2 2", 1, 0) + ";" + basket(3, 1, "4 4", 1, 0)
-            + ";" + basket(3, 2, "4 4", 1, 0) + ";" + basket(4, 5, "4 4", 1, 0)
-            + ";" + basket(4, 3, "1 3 4 4", 1, 0));
+        OsierHolt x = Kit.of(Kit.basket(3, 4, "2 2", 1, 0) + ";" + Kit.basket(3, 1, "4 4", 1, 0)
+            + ";" + Kit.basket(3, 2, "4 4", 1, 0) + ";" + Kit.basket(4, 5, "4 4", 1, 0)
+            + ";" + Kit.basket(4, 3, "1 3 4 4", 1, 0));
         isBasket(x, 0, 3, 4, 1, 0, 3 + 3, 4, 4, 0, 2, 2, 0, 3);
         Kit.is("float ends with the last round", x.basket(1, 8), 3);
         Kit.is("float goes on from round to round", x.basket(2, 8), 4);
@@ -124,7 +120,7 @@ final class StockTest {
 
     private static void fits() {
         Kit.part("promise 8");
-        OsierHolt x = Kit.of(basket(10, 2, "4 4", 1, 0) + ";" + basket(10, 2, "1 2", 1, 0));
+        OsierHolt x = Kit.of(Kit.basket(10, 2, "4 4", 1, 0) + ";" + Kit.basket(10, 2, "1 2", 1, 0));
         // two rounds are sound when each stake changes: 4 stakes of 4 and 4 do; with 3: OOO/O--
         Kit.is("fit", x.basket(0, 11), 4);
         // a stake of two rounds would have to change everywhere, which 1 over and 2 under cannot do
@@ -134,8 +130,8 @@ final class StockTest {
 
     private static void farFits() {
         Kit.part("promise 8");
-        OsierHolt x = Kit.of(basket(3, 2, "4 3 4 4 3 4", 1, 0) + ";" + basket(3, 3, "4 2 2 3 4 4", 1, 0)
-            + ";" + basket(3, 5, "1 1 2 1", 1, 0));
+        OsierHolt x = Kit.of(Kit.basket(3, 2, "4 3 4 4 3 4", 1, 0) + ";" + Kit.basket(3, 3, "4 2 2 3 4 4", 1, 0)
+            + ";" + Kit.basket(3, 5, "1 1 2 1", 1, 0));
         Kit.is("fit", x.basket(0, 11), 11);
         Kit.is("fit", x.basket(1, 11), 17);
         // O-O / O-O / -OO / -O- / OO-
@@ -144,10 +140,10 @@ final class StockTest {
 
     private static void nearest() {
         Kit.part("promise 8");
-        OsierHolt x = Kit.of(basket(3, 1, "1 1", 1, 0));
+        OsierHolt x = Kit.of(Kit.basket(3, 1, "1 1", 1, 0));
         Kit.is("none other", x.basket(0, 12), OsierHolt.NONE);
-        Kit.holt(x, basket(3, 1, "1 2 3 4", 1, 0) + ";" + basket(3, 1, "1 2 3 3", 1, 0) + ";"
-            + basket(3, 1, "2 3", 1, 0));
+        Kit.holt(x, Kit.basket(3, 1, "1 2 3 4", 1, 0) + ";" + Kit.basket(3, 1, "1 2 3 3", 1, 0) + ";"
+            + Kit.basket(3, 1, "2 3", 1, 0));
         Kit.is("nearest of 1 1", x.basket(0, 12), 3);
         Kit.is("nearest of 1 2 3 4", x.basket(1, 12), 2);
         Kit.is("nearest of 1 2 3 3", x.basket(2, 12), 1);
@@ -156,7 +152,7 @@ final class StockTest {
 
     private static void runs() {
         Kit.part("promise 9");
-        OsierHolt x = Kit.of(basket(3, 1, "1 2 3 4 2 1", 1, 0) + ";" + basket(3, 1, "4 3", 1, 0));
+        OsierHolt x = Kit.of(Kit.basket(3, 1, "1 2 3 4 2 1", 1, 0) + ";" + Kit.basket(3, 1, "4 3", 1, 0));
         int[] due = {1, 2, 3, 4, 2, 1, -1};
         for (int k = 0; k < due.length; k++) {
             Kit.is("run(0, " + k + ")", x.run(0, k), due[k]);
@@ -170,7 +166,7 @@ final class StockTest {
 
     private static void overs() {
         Kit.part("promise 10");
-        OsierHolt x = Kit.of(basket(5, 3, "2 1 1 3", 1, 0));
+        OsierHolt x = Kit.of(Kit.basket(5, 3, "2 1 1 3", 1, 0));
         String due = "OO-O---" + "OO-O---" + "O";
         for (int place = 0; place < 15; place++) {
             Kit.is("over at " + place, x.over(0, place / 5, place % 5), due.charAt(place) == 'O');
@@ -207,7 +203,7 @@ final class StockTest {
 
     private static void orders() {
         Kit.part("promise 14");
-        OsierHolt x = Kit.of(basket(3, 1, "1 1", 1, 0) + ";" + basket(5, 2, "1 1", 2, 7) + ";order 1 9;order 0 1");
+        OsierHolt x = Kit.of(Kit.basket(3, 1, "1 1", 1, 0) + ";" + Kit.basket(5, 2, "1 1", 2, 7) + ";order 1 9;order 0 1");
         int[][] due = {{1, 9, 1, 54}, {0, 1, 1, 4}};
         for (int order = 0; order < 2; order++) {
             for (int what = 0; what < 4; what++) {
